@@ -1,0 +1,83 @@
+import java.nio.charset.StandardCharsets;
+import java.util.NoSuchElementException;
+
+/** What the tests share: counting wrong answers, and feeding texts. */
+public final class Check {
+    private static int looked = 0;
+    private static int wrong = 0;
+
+    private Check() { }
+
+    public static void due(String what, long got, long want) {
+        looked++;
+        if (got != want) {
+            wrong++;
+            System.out.println(what + " answered " + got + ", due is " + want);
+        }
+    }
+
+    public static void due(String what, boolean got, boolean want) {
+        due(what, got ? 1 : 0, want ? 1 : 0);
+    }
+
+    /** Ends the test's program, with exit code 1 if an answer was wrong. */
+    public static void end() {
+        System.out.println(looked + " answers looked at, " + wrong + " wrong");
+        if (wrong != 0 || looked == 0) {
+            System.exit(1);
+        }
+    }
+
+    /** A text's bytes as the numbers of feed, blanks behind it up to a multiple of 20. */
+    public static int[] words(String text) {
+        byte[] bytes = text.getBytes(StandardCharsets.ISO_8859_1);
+        int[] words = new int[(bytes.length + 19) / 20 * 5];
+        for (int i = 0; i < words.length * 4; i++) {
+            int b = i < bytes.length ? bytes[i] & 255 : 32;
+            words[i / 4] = words[i / 4] << 8 | b;
+        }
+        return words;
+    }
+
+    public static int closes(GargoyleClose x, String text) {
+        int[] w = words(text);
+        for (int i = 0; i < w.length; i += 5) {
+            x.feed(w[i], w[i + 1], w[i + 2], w[i + 3], w[i + 4]);
+        }
+        return x.close(text.length());
+    }
+
+    /** A new object with the close of a text that has no fault. */
+    public static GargoyleClose made(String text) {
+        GargoyleClose x = new GargoyleClose();
+        int faces = closes(x, text);
+        if (faces < 1) {
+            due("close of " + text + ", fault " + x.fault() + " at " + x.where(), faces, 1);
+        }
+        return x;
+    }
+
+    /** Whether led(i) throws what it must. */
+    public static boolean ledThrows(GargoyleClose x, int i) {
+        try {
+            x.led(i);
+            return false;
+        } catch (NoSuchElementException e) {
+            return true;
+        }
+    }
+
+    /** Looks at the answer of a call that was refused, and at its trouble. */
+    public static void refused(GargoyleClose x, String what, long got, long want, int trouble) {
+        due(what, got, want);
+        due("trouble() behind " + what, x.trouble(), trouble);
+    }
+
+    public static void refused(GargoyleClose x, String what, long got, int trouble) {
+        refused(x, what, got, -1, trouble);
+    }
+
+    public static void refused(GargoyleClose x, String what, boolean got, int trouble) {
+        refused(x, what, got ? 1 : 0, 0, trouble);
+    }
+}
