@@ -51,6 +51,7 @@ public final class GargoyleClose {
     private static final int NO_WAY_STEPS = 60;
     private static final int SULKS_REFUSED = -100;
 
+    private static final int BAT = 0;
     private static final int LION = 1;
     private static final int PIG = 2;
 
@@ -1688,7 +1689,7 @@ public final class GargoyleClose {
 
         private int kindHere() {
             if (isWord("bat")) {
-                return 0;
+                return BAT;
             }
             if (isWord("lion")) {
                 return LION;
