@@ -39,11 +39,15 @@ public final class Check {
         return words;
     }
 
-    public static int closes(GargoyleClose x, String text) {
+    public static void feed(GargoyleClose x, String text) {
         int[] w = words(text);
         for (int i = 0; i < w.length; i += 5) {
             x.feed(w[i], w[i + 1], w[i + 2], w[i + 3], w[i + 4]);
         }
+    }
+
+    public static int closes(GargoyleClose x, String text) {
+        feed(x, text);
         return x.close(text.length());
     }
 

@@ -20,6 +20,7 @@ public final class PromisesTest {
         daysToCome();
         kinds();
         rows();
+        lastOfSixty();
         facesToCanons();
         matches();
         tooFew();
@@ -56,6 +57,7 @@ public final class PromisesTest {
         Check.refused(x, "wet of none", x.wet(0), 1);
         Check.refused(x, "firstWet of none", x.firstWet(-1, 0), 1);
         Check.refused(x, "gate of none", x.gate(), 1);
+        Check.refused(x, "fitAt of none", x.fitAt(0), 1);
         Check.refused(x, "image of none", x.image(), 1);
         Check.refused(x, "back of none", x.back(0), 1);
         Check.refused(x, "undo of none", x.undo(), 6);
@@ -175,6 +177,27 @@ public final class PromisesTest {
         GargoyleClose y = Check.made("close wide 2 deep 2 calm 0;face l lion holds 1 wears 0 at 0;canon c l vexed 30 every 1");
         Check.due("a lion heaps up", y.heaviest(), 29 * 60);
         Check.due("its burden behind 60", y.bears(0, 60), 29 * 60);
+    }
+
+    private static void lastOfSixty() {
+        GargoyleClose x = Check.made("close wide 2 deep 2 calm 0;face p pig holds 5 wears 5 at 0;canon c p vexed 1 every 6");
+        Check.due("drops on the 60th", x.dropsIn(0), 60);
+        Check.due("falls on the 60th", x.fallsIn(0), 60);
+        Check.due("wet on the 60th", x.wetDays(0, 60), 1);
+        Check.due("not on the 59th", x.wetDays(0, 59), 0);
+        GargoyleClose late = Check.made("close wide 2 deep 2 calm 0;face b bat holds 61 wears 9 at 0;canon c b vexed 1 every 1");
+        Check.due("not within 60", late.dropsIn(0), -2);
+        GargoyleClose y = Check.made("close wide 2 deep 2 calm 0;face l lion holds 1 wears 0 at 0;walker w from 1 to 0");
+        y.vex(0, 59);
+        Check.due("sunny on the 60th", y.sunny(), 60);
+        Check.due("dry on the 60th", y.dryDay(0), 60);
+        y.vex(0, 1);
+        Check.due("sunny on none", y.sunny(), -2);
+        Check.due("dry on none", y.dryDay(0), -2);
+        y.day();
+        Check.due("wet", y.cell(0, 2), 1);
+        Check.closes(y, SHORT);
+        Check.due("no day of another close", y.cell(0, 2), 0);
     }
 
     private static void facesToCanons() {

@@ -8,6 +8,7 @@ public final class TextTest {
         fedBytes();
         numbersOfClose();
         texts();
+        cutShort();
         form();
         names();
         toldAgain();
@@ -78,6 +79,21 @@ public final class TextTest {
         GargoyleClose x = Check.made(full.toString());
         int[] sizes = {5, 4, 100, 5, 6, 5, 4, 4, 6, 0, 0, 0, 0};
         for (int what = 0; what < 13; what++) Check.due("size " + what, x.size(what), sizes[what]);
+    }
+
+    /** Bytes behind the n-th are not read, though they would go on with the last token. */
+    private static void cutShort() {
+        GargoyleClose x = new GargoyleClose();
+        String text = "close wide 2 deep 2 calm 0;face fun bat holds 1 wears 0 at 0";
+        Check.feed(x, text + "999 more");
+        Check.due("a whole that is cut", x.close(text.length()), 1);
+        Check.feed(x, "closed");
+        Check.refused(x, "a word that is cut", x.close(5), 4);
+        Check.due("its fault is at the end", x.fault(), 1);
+        Check.due("the end", x.where(), 5);
+        Check.feed(x, text + ";face funny");
+        Check.refused(x, "a name that is cut", x.close(text.length() + 9), 4);
+        Check.due("it is told again", x.fault(), 3);
     }
 
     private static void form() {
