@@ -960,7 +960,7 @@ public final class GargoyleClose {
                 matching.setCost(f, c, costOf(f, c, n));
             }
         }
-        matching.place(0, matching.free, matching.idle);
+        matching.solve();
     }
 
     // ---- walkers
@@ -1440,9 +1440,13 @@ public final class GargoyleClose {
             more[f][c] = cost - without[f];
         }
 
+        void solve() {
+            place(0, free, idle);
+        }
+
         /** Tries all faces left for canon c and those behind him; at most as deep as there are canons. */
-        void place(int c, int left, int cost) {
-            if (c >= canons) {
+        private void place(int c, int left, int cost) {
+            if (c >= canons || c >= MOST_CANONS) {
                 if (cost < least) {
                     least = cost;
                     System.arraycopy(row, 0, best, 0, MOST_CANONS);

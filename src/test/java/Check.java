@@ -1,5 +1,6 @@
 import java.nio.charset.StandardCharsets;
 import java.util.NoSuchElementException;
+import java.util.function.IntToLongFunction;
 
 /** What the tests share: counting wrong answers, and feeding texts. */
 public final class Check {
@@ -83,5 +84,54 @@ public final class Check {
 
     public static void refused(GargoyleClose x, String what, boolean got, int trouble) {
         refused(x, what, got ? 1 : 0, 0, trouble);
+    }
+
+    /** A call takes a number from least to most; any other is refused with this trouble, by this answer. */
+    public static void bounds(GargoyleClose x, String what, int least, int most, int trouble, long no, IntToLongFunction call) {
+        for (int good : new int[] {least, most}) {
+            long got = call.applyAsLong(good);
+            due("trouble() behind " + what + " with " + good + ", which answered " + got, x.trouble(), 0);
+        }
+        for (int bad : new int[] {Integer.MIN_VALUE, least - 1, most + 1, Integer.MAX_VALUE}) {
+            refused(x, what + " with " + bad, call.applyAsLong(bad), no, trouble);
+        }
+    }
+
+    public static void bounds(GargoyleClose x, String what, int least, int most, int trouble, IntToLongFunction call) {
+        bounds(x, what, least, most, trouble, -1, call);
+    }
+
+    public static void fraction(String what, long gotUpper, long gotLower, long upper, long lower) {
+        due(what + ", upper", gotUpper, upper);
+        due(what + ", lower", gotLower, lower);
+    }
+
+    /** The lines of a close as its text. */
+    public static String lines(String... lines) {
+        return String.join(";", lines);
+    }
+
+    /** All that acts change, and all that stays while they do, as a text to compare. */
+    public static String state(GargoyleClose x) {
+        StringBuilder s = new StringBuilder();
+        for (int what = 0; what <= 12; what++) s.append(x.size(what)).append(' ');
+        for (int f = 0; f < x.size(4); f++) {
+            for (int what = 0; what <= 6; what++) s.append(x.face(f, what)).append(' ');
+        }
+        for (int c = 0; c < x.size(5); c++) {
+            for (int what = 0; what <= 2; what++) s.append(x.canon(c, what)).append(' ');
+        }
+        for (int k = 0; k < x.size(0) * x.size(1); k++) {
+            for (int what = 0; what <= 3; what++) s.append(x.cell(k, what)).append(' ');
+        }
+        return s.toString();
+    }
+
+    public static void same(String what, String got, String want) {
+        looked++;
+        if (!got.equals(want)) {
+            wrong++;
+            System.out.println(what + ": " + got + ", due is " + want);
+        }
     }
 }

@@ -392,32 +392,27 @@ public final class PromisesTest {
 
     private static void chances() {
         GargoyleClose x = Check.made(PAGE);
-        fraction("odds of ann in 3", x.odds(0, 3, false), x.odds(0, 3, true), 1, 8);
-        fraction("odds of ann in 4", x.odds(0, 4, false), x.odds(0, 4, true), 5, 16);
-        fraction("odds of ann in 2", x.odds(0, 2, false), x.odds(0, 2, true), 0, 1);
-        fraction("odds in none", x.odds(0, 0, false), x.odds(0, 0, true), 0, 1);
-        fraction("odds of bob in 2", x.odds(1, 2, false), x.odds(1, 2, true), 1, 2);
-        fraction("mean of ann in 1", x.mean(0, 1, false), x.mean(0, 1, true), 2, 1);
-        fraction("mean of ann in 3", x.mean(0, 3, false), x.mean(0, 3, true), 9, 2);
-        fraction("mean in none", x.mean(0, 0, false), x.mean(0, 0, true), 0, 1);
+        Check.fraction("odds of ann in 3", x.odds(0, 3, false), x.odds(0, 3, true), 1, 8);
+        Check.fraction("odds of ann in 4", x.odds(0, 4, false), x.odds(0, 4, true), 5, 16);
+        Check.fraction("odds of ann in 2", x.odds(0, 2, false), x.odds(0, 2, true), 0, 1);
+        Check.fraction("odds in none", x.odds(0, 0, false), x.odds(0, 0, true), 0, 1);
+        Check.fraction("odds of bob in 2", x.odds(1, 2, false), x.odds(1, 2, true), 1, 2);
+        Check.fraction("mean of ann in 1", x.mean(0, 1, false), x.mean(0, 1, true), 2, 1);
+        Check.fraction("mean of ann in 3", x.mean(0, 3, false), x.mean(0, 3, true), 9, 2);
+        Check.fraction("mean in none", x.mean(0, 0, false), x.mean(0, 0, true), 0, 1);
         Check.refused(x, "odds(4, 0)", x.odds(4, 0, false), 1);
         Check.refused(x, "odds(0, 8)", x.odds(0, 8, true), 2);
         Check.refused(x, "mean(-1, 0)", x.mean(-1, 0, true), 1);
         Check.refused(x, "mean(0, -1)", x.mean(0, -1, false), 2);
         x.vex(0, 10);
-        fraction("what is borne goes on a calm day, too", x.odds(0, 1, false), x.odds(0, 1, true), 1, 1);
+        Check.fraction("what is borne goes on a calm day, too", x.odds(0, 1, false), x.odds(0, 1, true), 1, 1);
         Check.due("no trouble", x.trouble(), 0);
         GargoyleClose y = Check.made("close wide 2 deep 2 calm 99;face f bat holds 99 wears 0 at 0;canon c f vexed 15 every 1");
-        fraction("all seven days", y.odds(0, 7, false), y.odds(0, 7, true), 1, 100_000_000_000_000L);
-        fraction("mean of one", y.mean(0, 1, false), y.mean(0, 1, true), 3, 20);
+        Check.fraction("all seven days", y.odds(0, 7, false), y.odds(0, 7, true), 1, 100_000_000_000_000L);
+        Check.fraction("mean of one", y.mean(0, 1, false), y.mean(0, 1, true), 3, 20);
         GargoyleClose z = Check.made("close wide 2 deep 2 calm 100;face f bat holds 1 wears 0 at 0;canon c f vexed 30 every 1");
-        fraction("always calm", z.odds(0, 7, false), z.odds(0, 7, true), 0, 1);
-        fraction("always calm, mean", z.mean(0, 7, false), z.mean(0, 7, true), 0, 1);
-    }
-
-    private static void fraction(String what, long gotUpper, long gotLower, long upper, long lower) {
-        Check.due(what + ", upper", gotUpper, upper);
-        Check.due(what + ", lower", gotLower, lower);
+        Check.fraction("always calm", z.odds(0, 7, false), z.odds(0, 7, true), 0, 1);
+        Check.fraction("always calm, mean", z.mean(0, 7, false), z.mean(0, 7, true), 0, 1);
     }
 
     /** Behind seed 0 come 74, 5624, 28652, 51790: mod 100 they are 74, 24, 52, 90. */
