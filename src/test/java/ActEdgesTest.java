@@ -341,6 +341,11 @@ public final class ActEdgesTest {
         Check.due("one that has fallen isn't led, though no canon has it", Check.ledThrows(x, 0), true);
         x.undo();
         Check.due("led again", x.led(0), 2);
+        Check.closes(x, Check.lines(SMALL, "face a bat holds 1 wears 9 at 0"));
+        Check.due("the one face of another close", x.led(0), 0);
+        Check.due("no face of a close that was", Check.ledThrows(x, 1), true);
+        Check.closes(x, Check.lines(SMALL, "face a bat holds 1 wears 9 at 0"));
+        Check.due("nor of the one ahead of it", Check.ledThrows(x, 1), true);
     }
 
     private static void size() {

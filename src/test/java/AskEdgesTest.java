@@ -1,10 +1,6 @@
 /** Each boundary that the document names of questions: terms II and III, promises 6 to 45. */
 public final class AskEdgesTest {
     private static final String SMALL = "close wide 2 deep 2 calm 0";
-    private static final String PAGE = Check.lines("close wide 3 deep 3 calm 50", "wall 4", "face ann bat holds 10 wears 3 at 1",
-        "face bob lion holds 6 wears 0 at 3", "face cob pig holds 4 wears 4 at 5", "face dun bat holds 50 wears 1 at 8",
-        "canon abe ann vexed 4 every 1", "canon ben bob vexed 9 every 2", "canon col cob vexed 3 every 1",
-        "walker wil from 0 to 2", "walker joe from 6 to 2", "unsure abe 5", "unsure col 2", "dropped ann day 3", "dropped cob day 3");
     /** A pig that needs ten vexations of 1 to let go, and falls by it. */
     private static final String PIG = "face p pig holds 5 wears 5 at 0";
     private static final String LION = "face l lion holds 1 wears 0 at 0";
@@ -58,7 +54,7 @@ public final class AskEdgesTest {
     // ---- now
 
     private static void face() {
-        GargoyleClose x = Check.made(PAGE);
+        GargoyleClose x = Check.made(Check.PAGE);
         Check.bounds(x, "face(f, 0)", 0, 3, 1, f -> x.face(f, 0));
         Check.bounds(x, "face(0, what)", 0, 6, 1, what -> x.face(0, what));
         Check.refused(x, "face(4, 7)", x.face(4, 7), 1);
@@ -75,7 +71,7 @@ public final class AskEdgesTest {
     }
 
     private static void canon() {
-        GargoyleClose x = Check.made(PAGE);
+        GargoyleClose x = Check.made(Check.PAGE);
         Check.bounds(x, "canon(c, 0)", 0, 2, 1, c -> x.canon(c, 0));
         Check.bounds(x, "canon(0, what)", 0, 2, 1, what -> x.canon(0, what));
         GargoyleClose none = made(SMALL, LION);
@@ -86,7 +82,7 @@ public final class AskEdgesTest {
     }
 
     private static void cell() {
-        GargoyleClose x = Check.made(PAGE);
+        GargoyleClose x = Check.made(Check.PAGE);
         Check.bounds(x, "cell(k, 0)", 0, 8, 1, k -> x.cell(k, 0));
         Check.bounds(x, "cell(0, what)", 0, 3, 1, what -> x.cell(0, what));
         for (int k = 0; k < 9; k++) Check.due("wet ahead of any day, " + k, x.cell(k, 2), 0);
@@ -218,7 +214,7 @@ public final class AskEdgesTest {
     }
 
     private static void dropsIn() {
-        GargoyleClose page = Check.made(PAGE);
+        GargoyleClose page = Check.made(Check.PAGE);
         Check.bounds(page, "dropsIn(f)", 0, 3, 1, page::dropsIn);
         Check.due("tomorrow", bat(1).dropsIn(0), 1);
         Check.due("on the 60th", bat(60).dropsIn(0), 60);
@@ -239,7 +235,7 @@ public final class AskEdgesTest {
     }
 
     private static void fallsIn() {
-        GargoyleClose page = Check.made(PAGE);
+        GargoyleClose page = Check.made(Check.PAGE);
         Check.bounds(page, "fallsIn(f)", 0, 3, 1, page::fallsIn);
         GargoyleClose soon = made(SMALL, PIG, "canon c p vexed 10 every 1");
         Check.due("tomorrow", soon.fallsIn(0), 1);
@@ -264,6 +260,11 @@ public final class AskEdgesTest {
         x.day();
         Check.due("a day later", x.wet(59), 1 | 1 << 19);
         Check.due("behind its fall", x.wet(60), 1);
+        GargoyleClose undone = made(SMALL, LION);
+        undone.vex(0, 1);
+        Check.due("wet by an act", undone.wet(1), 1);
+        undone.undo();
+        Check.due("dry, the act undone", undone.wet(1), 0);
     }
 
     private static void wetDays() {
@@ -446,6 +447,9 @@ public final class AskEdgesTest {
         Check.refused(x, "too few", x.matchAt(0, 1), 1);
         GargoyleClose none = made(SMALL, LION);
         Check.refused(none, "no canons", none.matchAt(0, 1), 1);
+        GargoyleClose first = made(SMALL, "face a bat holds 1 wears 9 at 0", "face b bat holds 1 wears 9 at 1", "canon c a vexed 1 every 1");
+        first.day();
+        Check.due("none that has fallen, though no canon could vex it", first.matchAt(0, 1), 1);
     }
 
     // ---- ways
@@ -813,6 +817,7 @@ public final class AskEdgesTest {
         Check.due("where he ends isn't wet", x.wets(0, 10), 1);
         Check.due("where he ends is", x.wets(3, 10), 2);
         Check.due("the first dry day", x.dryDay(3), 1);
+        Check.due("without 8 three walkers have two steps less", x.gate(), 8);
         Check.due("sets", x.fits(), 1);
         Check.due("ask", x.ask(), 0);
         Check.due("judge", x.judge(), -2);
@@ -824,12 +829,13 @@ public final class AskEdgesTest {
         Check.due("the burden", x.burden(), 9 * (1 + 2 + 3 + 4 + 5));
         Check.due("the tenth", x.day(), five);
         Check.due("led", x.led(0), 5);
+        Check.due("none more", Check.ledThrows(x, 1), true);
     }
 
     // ---- none of these is an act
 
     private static void questionsChangeNothing() {
-        GargoyleClose x = Check.made(PAGE);
+        GargoyleClose x = Check.made(Check.PAGE);
         x.day();
         x.vex(1, 3);
         x.image();

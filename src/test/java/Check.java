@@ -4,6 +4,12 @@ import java.util.function.IntToLongFunction;
 
 /** What the tests share: counting wrong answers, and feeding texts. */
 public final class Check {
+    /** A close with something of each sort, the one that the runs under ../shared/tests begin with. */
+    public static final String PAGE = lines("close wide 3 deep 3 calm 50", "wall 4", "face ann bat holds 10 wears 3 at 1",
+        "face bob lion holds 6 wears 0 at 3", "face cob pig holds 4 wears 4 at 5", "face dun bat holds 50 wears 1 at 8",
+        "canon abe ann vexed 4 every 1", "canon ben bob vexed 9 every 2", "canon col cob vexed 3 every 1",
+        "walker wil from 0 to 2", "walker joe from 6 to 2", "unsure abe 5", "unsure col 2", "dropped ann day 3", "dropped cob day 3");
+
     private static int looked = 0;
     private static int wrong = 0;
 

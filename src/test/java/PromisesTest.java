@@ -1,9 +1,5 @@
 /** Promises 1 and 6 to 55, by answers that were worked out by hand. */
 public final class PromisesTest {
-    private static final String PAGE = "close wide 3 deep 3 calm 50;wall 4;face ann bat holds 10 wears 3 at 1;"
-        + "face bob lion holds 6 wears 0 at 3;face cob pig holds 4 wears 4 at 5;face dun bat holds 50 wears 1 at 8;"
-        + "canon abe ann vexed 4 every 1;canon ben bob vexed 9 every 2;canon col cob vexed 3 every 1;"
-        + "walker wil from 0 to 2;walker joe from 6 to 2;unsure abe 5;unsure col 2;dropped ann day 3;dropped cob day 3";
     /** Behind one day a has fallen, with its canon; none is left over. */
     private static final String SHORT = "close wide 2 deep 2 calm 0;face a bat holds 1 wears 9 at 0;"
         + "face b lion holds 9 wears 1 at 3;canon x a vexed 1 every 1;canon y b vexed 2 every 1";
@@ -68,7 +64,7 @@ public final class PromisesTest {
     }
 
     private static void now() {
-        GargoyleClose x = Check.made(PAGE);
+        GargoyleClose x = Check.made(Check.PAGE);
         x.day();
         x.day();
         x.day();
@@ -89,7 +85,7 @@ public final class PromisesTest {
     }
 
     private static void wetCells() {
-        GargoyleClose x = Check.made(PAGE);
+        GargoyleClose x = Check.made(Check.PAGE);
         Check.due("wet ahead of any day", x.cell(3, 2), 0);
         x.day();
         x.day();
@@ -107,7 +103,7 @@ public final class PromisesTest {
     }
 
     private static void daysToCome() {
-        GargoyleClose x = Check.made(PAGE);
+        GargoyleClose x = Check.made(Check.PAGE);
         int[] ann = {0, 4, 8, 0, 4, 0, 0, 0, 0};
         int[] annHolds = {10, 10, 10, 7, 7, 4, 1, 0, 0};
         int[] bob = {0, 0, 3, 3, 6, 0, 3, 3, 6};
@@ -201,7 +197,7 @@ public final class PromisesTest {
     }
 
     private static void facesToCanons() {
-        GargoyleClose x = Check.made(PAGE);
+        GargoyleClose x = Check.made(Check.PAGE);
         Check.due("dropsIf as it is", x.dropsIf(0, 0, 7), 9);
         Check.due("dropsIf led", x.dropsIf(2, 3, 3), 1 + 1);
         Check.due("faceFor, where none lets go", x.faceFor(1, 7), 3);
@@ -266,7 +262,7 @@ public final class PromisesTest {
     }
 
     private static void ways() {
-        GargoyleClose x = Check.made(PAGE);
+        GargoyleClose x = Check.made(Check.PAGE);
         wayIs(x, 1, 1, 0, 0, 0, 1, 1);
         wayIs(x, 1, 2, 0, 1, 1, 0, 0);
         wayIs(x, 1, 3, 1, 0, 0, 1, 1);
@@ -354,7 +350,7 @@ public final class PromisesTest {
         GargoyleClose free = Check.made("close wide 2 deep 2 calm 0;face a bat holds 1 wears 0 at 0;dropped a day 1");
         Check.due("a face without a canon never lets go", free.fits(), 0);
         Check.due("judge it", free.judge(), 0);
-        GargoyleClose page = Check.made(PAGE);
+        GargoyleClose page = Check.made(Check.PAGE);
         Check.due("fits of the page", page.fits(), 1);
         Check.due("its fit", page.fitAt(0), 0);
         Check.due("its could", page.could(), 0);
@@ -391,7 +387,7 @@ public final class PromisesTest {
     }
 
     private static void chances() {
-        GargoyleClose x = Check.made(PAGE);
+        GargoyleClose x = Check.made(Check.PAGE);
         Check.fraction("odds of ann in 3", x.odds(0, 3, false), x.odds(0, 3, true), 1, 8);
         Check.fraction("odds of ann in 4", x.odds(0, 4, false), x.odds(0, 4, true), 5, 16);
         Check.fraction("odds of ann in 2", x.odds(0, 2, false), x.odds(0, 2, true), 0, 1);
@@ -417,7 +413,7 @@ public final class PromisesTest {
 
     /** Behind seed 0 come 74, 5624, 28652, 51790: mod 100 they are 74, 24, 52, 90. */
     private static void draws() {
-        GargoyleClose x = Check.made(PAGE);
+        GargoyleClose x = Check.made(Check.PAGE);
         int[] ann = {0, 4, 4, 8, 0};
         int[] bob = {0, 0, 0, 0, 3};
         for (int n = 0; n <= 4; n++) {
@@ -439,7 +435,7 @@ public final class PromisesTest {
     }
 
     private static void days() {
-        GargoyleClose x = Check.made(PAGE);
+        GargoyleClose x = Check.made(Check.PAGE);
         int[] wet = {0, 8, 34, 8, 10, 10, 2, 8};
         for (int d = 0; d < wet.length; d++) Check.due("day " + (d + 1), x.day(), wet[d]);
         Check.due("days gone by", x.size(9), 8);
@@ -452,7 +448,7 @@ public final class PromisesTest {
     }
 
     private static void given() {
-        GargoyleClose x = Check.made(PAGE);
+        GargoyleClose x = Check.made(Check.PAGE);
         Check.due("give", x.give(0, 3), 0);
         Check.due("his face", x.canon(0, 0), 3);
         Check.due("its canon", x.face(3, 5), 0);
@@ -472,7 +468,7 @@ public final class PromisesTest {
     }
 
     private static void mended() {
-        GargoyleClose x = Check.made(PAGE);
+        GargoyleClose x = Check.made(Check.PAGE);
         Check.refused(x, "mend as told", x.mend(0), 5);
         Check.refused(x, "mend(4)", x.mend(4), 1);
         x.day();
@@ -490,7 +486,7 @@ public final class PromisesTest {
     }
 
     private static void vexed() {
-        GargoyleClose x = Check.made(PAGE);
+        GargoyleClose x = Check.made(Check.PAGE);
         for (int i = 1; i <= 10; i++) Check.due("vex", x.vex(3, 99), 99 * i);
         Check.refused(x, "vex above 999", x.vex(3, 10), 3);
         Check.due("vex to 999", x.vex(3, 9), 999);
@@ -505,7 +501,7 @@ public final class PromisesTest {
     }
 
     private static void undone() {
-        GargoyleClose x = Check.made(PAGE);
+        GargoyleClose x = Check.made(Check.PAGE);
         Check.refused(x, "nothing to undo", x.undo(), 6);
         x.day();
         x.day();
@@ -534,7 +530,7 @@ public final class PromisesTest {
     }
 
     private static void imaged() {
-        GargoyleClose x = Check.made(PAGE);
+        GargoyleClose x = Check.made(Check.PAGE);
         Check.due("image", x.image(), 0);
         x.day();
         x.day();
@@ -567,7 +563,7 @@ public final class PromisesTest {
     }
 
     private static void left() {
-        GargoyleClose x = Check.made(PAGE);
+        GargoyleClose x = Check.made(Check.PAGE);
         Check.due("led(0)", x.led(0), 3);
         Check.due("led(1) throws", Check.ledThrows(x, 1), true);
         Check.due("led(-1) throws", Check.ledThrows(x, -1), true);
